@@ -233,7 +233,7 @@ public final class PromisesTest {
     private static void loadLayoutRefused() {
         check.at("promise 8, loadLayout of another text");
         String[] texts = {
-            "", "a", "abcdefghijk", "abcdefghijkk", "aacdefghijkl", "abcdefghijkll", "abcdefghijkla",
+            "", "a", "abcdefghijk", "bbcdefghijkl", "abcdefghijkk", "aacdefghijkl", "abcdefghijkll", "abcdefghijkla",
             "llllllllllll", "abcdefghijklabcdefghijkl"
         };
         for (String text : texts) {
@@ -246,6 +246,10 @@ public final class PromisesTest {
             check.due("undoCount()", x.undoCount(), 1);
             check.due("clearText()", x.clearText(), text.length());
         }
+        TypebarLayout x = with("aaaaaaaaaaaal");
+        x.clearText();
+        write(x, "abcdefghijkk");
+        check.due("loadLayout() where the text before had an l", x.loadLayout(), NO_LAYOUT);
     }
 
     private static void letterAtAndPositionOf() {
@@ -433,6 +437,9 @@ public final class PromisesTest {
         check.due("bestSwap() of abab", with("abab").bestSwap(), 4);
         check.due("bestSwap() of klkl", with("klkl").bestSwap(), 10);
         check.due("bestSwap() of abcabc", with("abcabc").bestSwap(), 105);
+        TypebarLayout beside = with("bg");
+        beside.setClashDistance(5);
+        check.due("bestSwap() of two positions side by side", beside.bestSwap(), 1);
         TypebarLayout x = with("abcabc");
         long before = x.digest();
         x.bestSwap();
@@ -475,6 +482,7 @@ public final class PromisesTest {
         check.due("worstLetter() of no text", new TypebarLayout().worstLetter(), NONE);
         check.due("worstLetter() of aaaa", with("aaaa").worstLetter(), NONE);
         check.due("worstLetter() of adad", with("adad").worstLetter(), NONE);
+        check.due("worstLetter() of ac", with("ac").worstLetter(), 0);
         check.due("worstLetter() of abcb", with("abcb").worstLetter(), 1);
         check.due("worstLetter() of lk", with("lk").worstLetter(), 10);
         check.due("worstLetter() of abab", with("abab").worstLetter(), 0);
@@ -485,6 +493,11 @@ public final class PromisesTest {
         check.due("worstLetter() in a mirrored layout", x.worstLetter(), 1);
         x.swap(10, 0);
         check.due("worstLetter() where b is apart", x.worstLetter(), NONE);
+        TypebarLayout shorter = with("abcb");
+        shorter.clearText();
+        write(shorter, "ab");
+        check.due("worstLetter() of ab, which was abcb", shorter.worstLetter(), 0);
+        check.due("cost() of ab, which was abcb", shorter.cost(), 2);
     }
 
     private static void run() {
@@ -533,6 +546,8 @@ public final class PromisesTest {
         // The distance C itself jams, C + 1 does not; the layout decides, not the letters.
         check.due("run(1) of ac", with("ac").run(1), 1);
         check.due("run(1) of ca", with("ca").run(1), 1);
+        check.due("run(1) of lj", with("lj").run(1), 1);
+        check.due("run(1) of jl", with("jl").run(1), 1);
         check.due("run(1) of ad", with("ad").run(1), 2);
         TypebarLayout moved = with("ad");
         moved.swap(3, 2);
