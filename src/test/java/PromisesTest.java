@@ -48,29 +48,8 @@ public final class PromisesTest {
         check.end();
     }
 
-    private static TypebarLayout with(String text) {
-        TypebarLayout x = new TypebarLayout();
-        write(x, text);
-        return x;
-    }
-
-    private static void write(TypebarLayout x, String text) {
-        for (char c : text.toCharArray()) {
-            x.append(c);
-        }
-    }
-
-    /** The letters by position, as a text. */
-    private static String layout(TypebarLayout x) {
-        StringBuilder s = new StringBuilder();
-        for (int p = 0; p < 12; p++) {
-            s.append((char) ('a' + x.letterAt(p)));
-        }
-        return s.toString();
-    }
-
     private static void layoutIs(TypebarLayout x, String want) {
-        String got = layout(x);
+        String got = Given.layout(x);
         check.holds("the layout is " + want + ", it is " + got, got.equals(want));
         for (int p = 0; p < 12; p++) {
             check.due("positionOf(" + (want.charAt(p) - 'a') + ")", x.positionOf(want.charAt(p) - 'a'), p);
@@ -127,7 +106,7 @@ public final class PromisesTest {
 
     private static void clearText() {
         check.at("promise 3, clearText");
-        TypebarLayout x = with("abcab");
+        TypebarLayout x = Given.text("abcab");
         x.swap(0, 1);
         x.run(1);
         int printed = x.printedLetter(0);
@@ -144,7 +123,7 @@ public final class PromisesTest {
 
     private static void pairCount() {
         check.at("promise 4, pairCount");
-        TypebarLayout x = with("abbaabc");
+        TypebarLayout x = Given.text("abbaabc");
         check.due("pairCount(0, 1)", x.pairCount(0, 1), 3);
         check.due("pairCount(1, 0)", x.pairCount(1, 0), 3);
         check.due("pairCount(0, 0)", x.pairCount(0, 0), 1);
@@ -160,14 +139,14 @@ public final class PromisesTest {
             check.due("pairCount(0, " + w + ")", x.pairCount(0, w), RANGE);
             check.due("pairCount(" + w + ", " + w + ")", x.pairCount(w, w), RANGE);
         }
-        check.due("pairCount in a text that overlaps", with("aaa").pairCount(0, 0), 2);
-        check.due("pairCount in a text of one letter", with("a").pairCount(0, 0), 0);
+        check.due("pairCount in a text that overlaps", Given.text("aaa").pairCount(0, 0), 2);
+        check.due("pairCount in a text of one letter", Given.text("a").pairCount(0, 0), 0);
         check.due("pairCount in an empty text", new TypebarLayout().pairCount(0, 0), 0);
     }
 
     private static void setTravelTime() {
         check.at("promise 5, setTravelTime");
-        TypebarLayout x = with("aa");
+        TypebarLayout x = Given.text("aa");
         check.due("setTravelTime(1)", x.setTravelTime(1), 4);
         check.due("safeInterval()", x.safeInterval(), 1);
         check.due("setTravelTime(20)", x.setTravelTime(20), 1);
@@ -181,7 +160,7 @@ public final class PromisesTest {
 
     private static void setClashDistance() {
         check.at("promise 6, setClashDistance");
-        TypebarLayout x = with("af");
+        TypebarLayout x = Given.text("af");
         check.due("setClashDistance(5)", x.setClashDistance(5), 2);
         check.due("cost()", x.cost(), 1);
         check.due("run(1)", x.run(1), 1);
@@ -198,7 +177,7 @@ public final class PromisesTest {
 
     private static void setClearingTime() {
         check.at("promise 7, setClearingTime");
-        TypebarLayout x = with("abab");
+        TypebarLayout x = Given.text("abab");
         check.due("setClearingTime(0)", x.setClearingTime(0), 10);
         x.run(2);
         check.due("duration()", x.duration(), 10);
@@ -214,18 +193,18 @@ public final class PromisesTest {
 
     private static void loadLayout() {
         check.at("promise 8, loadLayout");
-        TypebarLayout x = with("ab");
+        TypebarLayout x = Given.text("ab");
         x.run(1);
         x.clearText();
         x.swap(0, 1);
-        write(x, ABC_ROTATED);
+        Given.write(x, ABC_ROTATED);
         check.due("loadLayout()", x.loadLayout(), 12);
         layoutIs(x, ABC_ROTATED);
         check.due("undoCount()", x.undoCount(), 0);
         check.due("undo()", x.undo(), NONE);
         check.due("jams()", x.jams(), 1);
         check.due("clearText()", x.clearText(), 0);
-        write(x, "lab");
+        Given.write(x, "lab");
         // l and a are at 10 and 11 now, b is at 0.
         check.due("cost()", x.cost(), 2);
     }
@@ -239,22 +218,22 @@ public final class PromisesTest {
         for (String text : texts) {
             TypebarLayout x = new TypebarLayout();
             x.swap(2, 9);
-            write(x, text);
+            Given.write(x, text);
             long before = x.digest();
             check.due("loadLayout() of '" + text + "'", x.loadLayout(), NO_LAYOUT);
             check.due("digest()", x.digest(), before);
             check.due("undoCount()", x.undoCount(), 1);
             check.due("clearText()", x.clearText(), text.length());
         }
-        TypebarLayout x = with("aaaaaaaaaaaal");
+        TypebarLayout x = Given.text("aaaaaaaaaaaal");
         x.clearText();
-        write(x, "abcdefghijkk");
+        Given.write(x, "abcdefghijkk");
         check.due("loadLayout() where the text before had an l", x.loadLayout(), NO_LAYOUT);
     }
 
     private static void letterAtAndPositionOf() {
         check.at("promises 9 and 10, letterAt and positionOf");
-        TypebarLayout x = with(ABC_ROTATED);
+        TypebarLayout x = Given.text(ABC_ROTATED);
         x.loadLayout();
         check.due("letterAt(0)", x.letterAt(0), 1);
         check.due("letterAt(11)", x.letterAt(11), 0);
@@ -269,7 +248,7 @@ public final class PromisesTest {
 
     private static void swap() {
         check.at("promise 11, swap");
-        TypebarLayout x = with("abcabc");
+        TypebarLayout x = Given.text("abcabc");
         check.due("swap(0, 11)", x.swap(0, 11), 4);
         layoutIs(x, "lbcdefghijka");
         // These are positions, not letters: position 11 holds the letter a now.
@@ -291,7 +270,7 @@ public final class PromisesTest {
 
     private static void undo() {
         check.at("promise 12, undo");
-        TypebarLayout x = with("abcabc");
+        TypebarLayout x = Given.text("abcabc");
         check.due("undo()", x.undo(), NONE);
         x.swap(0, 11);
         x.swap(11, 5);
@@ -308,10 +287,10 @@ public final class PromisesTest {
         check.at("promise 12, undo of 33 swaps");
         TypebarLayout x = new TypebarLayout();
         String[] layouts = new String[34];
-        layouts[0] = layout(x);
+        layouts[0] = Given.layout(x);
         for (int k = 1; k <= 33; k++) {
             x.swap(k * 5 % 12, k * 7 % 11 == k * 5 % 12 ? 11 - k * 5 % 12 : k * 7 % 11);
-            layouts[k] = layout(x);
+            layouts[k] = Given.layout(x);
             check.due("undoCount()", x.undoCount(), Math.min(k, 30));
         }
         for (int k = 32; k >= 3; k--) {
@@ -324,7 +303,7 @@ public final class PromisesTest {
 
     private static void undoAfterImprove() {
         check.at("promise 12, undo after improve");
-        TypebarLayout x = with("abcabc");
+        TypebarLayout x = Given.text("abcabc");
         x.swap(0, 11);
         check.due("improve(1)", x.improve(1), 1);
         check.due("undoCount()", x.undoCount(), 2);
@@ -337,7 +316,7 @@ public final class PromisesTest {
         for (int k = 0; k < 30; k++) {
             full.swap(9, 10);
         }
-        write(full, "abab");
+        Given.write(full, "abab");
         check.due("improve(5)", full.improve(5), 1);
         check.due("undoCount()", full.undoCount(), 30);
         check.due("undo()", full.undo(), 6);
@@ -346,7 +325,7 @@ public final class PromisesTest {
 
     private static void undoCount() {
         check.at("promise 13, undoCount");
-        TypebarLayout x = with("ab");
+        TypebarLayout x = Given.text("ab");
         x.gain(0, 1);
         x.bestSwap();
         x.swap(3, 3);
@@ -364,9 +343,9 @@ public final class PromisesTest {
 
     private static void mirror() {
         check.at("promise 14, mirror");
-        TypebarLayout x = with(ABC_ROTATED);
+        TypebarLayout x = Given.text(ABC_ROTATED);
         x.loadLayout();
-        write(x, "abc");
+        Given.write(x, "abc");
         x.swap(0, 3);
         // a is at 0 then, b at 8 and c at 10: only bc is close.
         check.due("mirror()", x.mirror(), 1);
@@ -381,15 +360,15 @@ public final class PromisesTest {
     private static void cost() {
         check.at("promise 15, cost");
         check.due("cost() of no text", new TypebarLayout().cost(), 0);
-        check.due("cost() of a", with("a").cost(), 0);
-        check.due("cost() of aaa", with("aaa").cost(), 0);
-        check.due("cost() of ab", with("ab").cost(), 2);
-        check.due("cost() of ba", with("ba").cost(), 2);
-        check.due("cost() of ac", with("ac").cost(), 1);
-        check.due("cost() of ad", with("ad").cost(), 0);
-        check.due("cost() of al", with("al").cost(), 0);
-        check.due("cost() of aabbac", with("aabbac").cost(), 5);
-        TypebarLayout wide = with("abcdefg");
+        check.due("cost() of a", Given.text("a").cost(), 0);
+        check.due("cost() of aaa", Given.text("aaa").cost(), 0);
+        check.due("cost() of ab", Given.text("ab").cost(), 2);
+        check.due("cost() of ba", Given.text("ba").cost(), 2);
+        check.due("cost() of ac", Given.text("ac").cost(), 1);
+        check.due("cost() of ad", Given.text("ad").cost(), 0);
+        check.due("cost() of al", Given.text("al").cost(), 0);
+        check.due("cost() of aabbac", Given.text("aabbac").cost(), 5);
+        TypebarLayout wide = Given.text("abcdefg");
         wide.append('a');
         wide.append('f');
         wide.append('b');
@@ -399,20 +378,20 @@ public final class PromisesTest {
         for (int k = 0; k < 30; k++) {
             longest.append("ab");
         }
-        TypebarLayout full = with(longest.toString());
+        TypebarLayout full = Given.text(longest.toString());
         full.setClashDistance(5);
         check.due("cost() of 30 times ab", full.cost(), 59 * 5);
     }
 
     private static void gain() {
         check.at("promise 16, gain");
-        TypebarLayout x = with("abcabc");
+        TypebarLayout x = Given.text("abcabc");
         long before = x.digest();
         check.due("gain(0, 11)", x.gain(0, 11), 5);
         check.due("gain(11, 0)", x.gain(11, 0), 5);
         check.due("gain(7, 8)", x.gain(7, 8), 0);
         check.due("digest()", x.digest(), before);
-        TypebarLayout apart = with("adad");
+        TypebarLayout apart = Given.text("adad");
         check.due("gain(3, 1)", apart.gain(3, 1), -6);
         check.due("gain(2, 0)", apart.gain(2, 0), -6);
         apart.swap(0, 11);
@@ -432,20 +411,20 @@ public final class PromisesTest {
     private static void bestSwap() {
         check.at("promise 17, bestSwap");
         check.due("bestSwap() of no text", new TypebarLayout().bestSwap(), NONE);
-        check.due("bestSwap() at cost 0", with("adad").bestSwap(), NONE);
+        check.due("bestSwap() at cost 0", Given.text("adad").bestSwap(), NONE);
         // From 0 on, 4 is the first position that takes a far enough from b.
-        check.due("bestSwap() of abab", with("abab").bestSwap(), 4);
-        check.due("bestSwap() of klkl", with("klkl").bestSwap(), 10);
-        check.due("bestSwap() of abcabc", with("abcabc").bestSwap(), 105);
-        TypebarLayout beside = with("bg");
+        check.due("bestSwap() of abab", Given.text("abab").bestSwap(), 4);
+        check.due("bestSwap() of klkl", Given.text("klkl").bestSwap(), 10);
+        check.due("bestSwap() of abcabc", Given.text("abcabc").bestSwap(), 105);
+        TypebarLayout beside = Given.text("bg");
         beside.setClashDistance(5);
         check.due("bestSwap() of two positions side by side", beside.bestSwap(), 1);
-        TypebarLayout x = with("abcabc");
+        TypebarLayout x = Given.text("abcabc");
         long before = x.digest();
         x.bestSwap();
         check.due("digest()", x.digest(), before);
         // With C = 5 at most three letters can be clear of one another: some cost is left.
-        TypebarLayout crowded = with("abcdabdbcacd");
+        TypebarLayout crowded = Given.text("abcdabdbcacd");
         crowded.setClashDistance(5);
         crowded.improve(100);
         check.holds("the crowded text costs something", crowded.cost() > 0);
@@ -459,7 +438,7 @@ public final class PromisesTest {
 
     private static void improve() {
         check.at("promise 18, improve");
-        TypebarLayout x = with("abcabc");
+        TypebarLayout x = Given.text("abcabc");
         check.due("improve(0)", x.improve(0), 0);
         layoutIs(x, "abcdefghijkl");
         int[] wrong = {-1, 101, MIN, MAX};
@@ -474,35 +453,35 @@ public final class PromisesTest {
         check.due("cost()", x.cost(), 0);
         check.due("improve(100)", x.improve(100), 0);
         check.due("undoCount()", x.undoCount(), 2);
-        check.due("improve(2) where two swaps are to be made", with("abcabc").improve(2), 2);
+        check.due("improve(2) where two swaps are to be made", Given.text("abcabc").improve(2), 2);
     }
 
     private static void worstLetter() {
         check.at("promise 19, worstLetter");
         check.due("worstLetter() of no text", new TypebarLayout().worstLetter(), NONE);
-        check.due("worstLetter() of aaaa", with("aaaa").worstLetter(), NONE);
-        check.due("worstLetter() of adad", with("adad").worstLetter(), NONE);
-        check.due("worstLetter() of ac", with("ac").worstLetter(), 0);
-        check.due("worstLetter() of abcb", with("abcb").worstLetter(), 1);
-        check.due("worstLetter() of lk", with("lk").worstLetter(), 10);
-        check.due("worstLetter() of abab", with("abab").worstLetter(), 0);
-        check.due("worstLetter() of aaaadkl", with("aaaadkl").worstLetter(), 10);
-        check.due("worstLetter() of gheg", with("gheg").worstLetter(), 6);
-        TypebarLayout x = with("abcb");
+        check.due("worstLetter() of aaaa", Given.text("aaaa").worstLetter(), NONE);
+        check.due("worstLetter() of adad", Given.text("adad").worstLetter(), NONE);
+        check.due("worstLetter() of ac", Given.text("ac").worstLetter(), 0);
+        check.due("worstLetter() of abcb", Given.text("abcb").worstLetter(), 1);
+        check.due("worstLetter() of lk", Given.text("lk").worstLetter(), 10);
+        check.due("worstLetter() of abab", Given.text("abab").worstLetter(), 0);
+        check.due("worstLetter() of aaaadkl", Given.text("aaaadkl").worstLetter(), 10);
+        check.due("worstLetter() of gheg", Given.text("gheg").worstLetter(), 6);
+        TypebarLayout x = Given.text("abcb");
         x.mirror();
         check.due("worstLetter() in a mirrored layout", x.worstLetter(), 1);
         x.swap(10, 0);
         check.due("worstLetter() where b is apart", x.worstLetter(), NONE);
-        TypebarLayout shorter = with("abcb");
+        TypebarLayout shorter = Given.text("abcb");
         shorter.clearText();
-        write(shorter, "ab");
+        Given.write(shorter, "ab");
         check.due("worstLetter() of ab, which was abcb", shorter.worstLetter(), 0);
         check.due("cost() of ab, which was abcb", shorter.cost(), 2);
     }
 
     private static void run() {
         check.at("promise 20, run");
-        TypebarLayout x = with("aaa");
+        TypebarLayout x = Given.text("aaa");
         check.due("run(3)", x.run(3), 2);
         check.due("run(1)", x.run(1), 1);
         int[] wrong = {0, 31, -1, MIN, MAX};
@@ -516,7 +495,7 @@ public final class PromisesTest {
         x.clearText();
         check.due("run(1) of no text", x.run(1), 0);
         check.due("printedLetter(0)", x.printedLetter(0), NONE);
-        write(x, "adgj");
+        Given.write(x, "adgj");
         check.due("run(1) of typebars apart", x.run(1), 4);
         check.due("run(1) again", x.run(1), 4);
     }
@@ -524,43 +503,43 @@ public final class PromisesTest {
     private static void runJams() {
         check.at("promise 20, run into jams");
         // c jams with a and e at once: both stop, c does not start, so a and e can be printed again.
-        TypebarLayout both = with("aecaec");
+        TypebarLayout both = Given.text("aecaec");
         both.setTravelTime(10);
         both.setClearingTime(0);
         check.due("run(1) of aecaec", both.run(1), 4);
         check.due("jams()", both.jams(), 2);
         check.due("lost()", both.lost(), 0);
         // l is far from the jam and goes on: its second keystroke is lost.
-        TypebarLayout far = with("albl");
+        TypebarLayout far = Given.text("albl");
         far.setTravelTime(10);
         far.setClearingTime(0);
         check.due("run(1) of albl", far.run(1), 2);
         check.due("jams()", far.jams(), 1);
         check.due("lost()", far.lost(), 1);
         // A jammed typebar is at rest: the same key prints next.
-        TypebarLayout again = with("abb");
+        TypebarLayout again = Given.text("abb");
         again.setTravelTime(10);
         again.setClearingTime(0);
         check.due("run(1) of abb", again.run(1), 2);
         check.due("printedLetter(1)", again.printedLetter(1), 1);
         // The distance C itself jams, C + 1 does not; the layout decides, not the letters.
-        check.due("run(1) of ac", with("ac").run(1), 1);
-        check.due("run(1) of ca", with("ca").run(1), 1);
-        check.due("run(1) of lj", with("lj").run(1), 1);
-        check.due("run(1) of jl", with("jl").run(1), 1);
-        check.due("run(1) of ad", with("ad").run(1), 2);
-        TypebarLayout moved = with("ad");
+        check.due("run(1) of ac", Given.text("ac").run(1), 1);
+        check.due("run(1) of ca", Given.text("ca").run(1), 1);
+        check.due("run(1) of lj", Given.text("lj").run(1), 1);
+        check.due("run(1) of jl", Given.text("jl").run(1), 1);
+        check.due("run(1) of ad", Given.text("ad").run(1), 2);
+        TypebarLayout moved = Given.text("ad");
         moved.swap(3, 2);
         check.due("run(1) of ad, with d beside a", moved.run(1), 1);
         // The clearing time comes once, behind the jam alone: a 0, b 1, l 12, l 13.
-        TypebarLayout once = with("abll");
+        TypebarLayout once = Given.text("abll");
         check.due("run(1) of abll", once.run(1), 2);
         check.due("duration()", once.duration(), 17);
     }
 
     private static void runResultsStay() {
         check.at("promise 20, results stay");
-        TypebarLayout x = with("abaa");
+        TypebarLayout x = Given.text("abaa");
         x.run(2);
         check.due("jams()", x.jams(), 1);
         check.due("lost()", x.lost(), 1);
@@ -572,7 +551,7 @@ public final class PromisesTest {
         x.mirror();
         x.safeInterval();
         x.clearText();
-        write(x, ABC_ROTATED);
+        Given.write(x, ABC_ROTATED);
         x.loadLayout();
         x.run(31);
         check.due("jams()", x.jams(), 1);
@@ -586,7 +565,7 @@ public final class PromisesTest {
 
     private static void jams() {
         check.at("promise 21, jams");
-        TypebarLayout x = with("abab");
+        TypebarLayout x = Given.text("abab");
         check.due("jams() before a run", x.jams(), 0);
         x.run(2);
         check.due("jams()", x.jams(), 2);
@@ -598,7 +577,7 @@ public final class PromisesTest {
 
     private static void lost() {
         check.at("promise 22, lost");
-        TypebarLayout x = with("aaaaa");
+        TypebarLayout x = Given.text("aaaaa");
         check.due("lost() before a run", x.lost(), 0);
         x.run(1);
         check.due("lost()", x.lost(), 3);
@@ -622,7 +601,7 @@ public final class PromisesTest {
         x.run(1);
         check.due("duration() with a lost keystroke last", x.duration(), 5);
         x.clearText();
-        write(x, "ab");
+        Given.write(x, "ab");
         x.run(1);
         check.due("duration() with a jammed keystroke last", x.duration(), 5);
         x.setTravelTime(9);
@@ -636,7 +615,7 @@ public final class PromisesTest {
 
     private static void printedLetter() {
         check.at("promise 24, printedLetter");
-        TypebarLayout x = with("lgba");
+        TypebarLayout x = Given.text("lgba");
         check.due("printedLetter(0) before a run", x.printedLetter(0), NONE);
         x.run(1);
         check.due("printedLetter(0)", x.printedLetter(0), 11);
@@ -647,7 +626,7 @@ public final class PromisesTest {
             check.due("printedLetter(" + w + ")", x.printedLetter(w), NONE);
         }
         x.clearText();
-        write(x, "abcdefghijklabcdefghijklabcdefghijklabcdefghijklabcdefghijkl");
+        Given.write(x, "abcdefghijklabcdefghijklabcdefghijklabcdefghijklabcdefghijkl");
         check.due("run(30)", x.run(30), 60);
         for (int k = 0; k < 60; k++) {
             check.due("printedLetter(" + k + ")", x.printedLetter(k), k % 12);
@@ -657,7 +636,7 @@ public final class PromisesTest {
 
     private static void jammedKeystroke() {
         check.at("promise 25, jammedKeystroke");
-        TypebarLayout x = with("ababab");
+        TypebarLayout x = Given.text("ababab");
         check.due("jammedKeystroke(0) before a run", x.jammedKeystroke(0), NONE);
         x.run(1);
         check.due("jammedKeystroke(0)", x.jammedKeystroke(0), 1);
@@ -674,13 +653,13 @@ public final class PromisesTest {
     private static void safeInterval() {
         check.at("promise 26, safeInterval");
         check.due("safeInterval() of no text", new TypebarLayout().safeInterval(), 1);
-        check.due("safeInterval() of a", with("a").safeInterval(), 1);
-        check.due("safeInterval() of aa", with("aa").safeInterval(), 4);
-        check.due("safeInterval() of ab", with("ab").safeInterval(), 4);
-        check.due("safeInterval() of ada", with("ada").safeInterval(), 2);
-        check.due("safeInterval() of adgb", with("adgb").safeInterval(), 2);
-        check.due("safeInterval() of adgj", with("adgj").safeInterval(), 1);
-        TypebarLayout x = with("adad");
+        check.due("safeInterval() of a", Given.text("a").safeInterval(), 1);
+        check.due("safeInterval() of aa", Given.text("aa").safeInterval(), 4);
+        check.due("safeInterval() of ab", Given.text("ab").safeInterval(), 4);
+        check.due("safeInterval() of ada", Given.text("ada").safeInterval(), 2);
+        check.due("safeInterval() of adgb", Given.text("adgb").safeInterval(), 2);
+        check.due("safeInterval() of adgj", Given.text("adgj").safeInterval(), 1);
+        TypebarLayout x = Given.text("adad");
         x.setTravelTime(20);
         check.due("safeInterval() with the travel time 20", x.safeInterval(), 10);
         x.run(1);
@@ -705,7 +684,7 @@ public final class PromisesTest {
         TypebarLayout x = new TypebarLayout();
         check.due("digest() of a new object", x.digest(),
             hash(0, 4, 2, 10, 0, 1, 2, 3, 4, 5, 6, 7, 8, 9, 10, 11, 0, 0, NONE, NONE, 1, 0, 0, 0, 0));
-        write(x, "abaa");
+        Given.write(x, "abaa");
         x.setClearingTime(11);
         x.setTravelTime(5);
         x.setClashDistance(3);
