@@ -165,6 +165,13 @@ public final class BoundaryDigestTest {
         digestIs("a run whose text is gone", x, "", 20, 5, 50);
         x.run(20);
         digestIs("an empty run", x, "", 20, 5, 50);
+        // The run before jammed another keystroke than the text that is there now would.
+        TypebarLayout other = Given.text("lab");
+        other.run(1);
+        check.due("jammedKeystroke(0)", other.jammedKeystroke(0), 2);
+        other.clearText();
+        Given.write(other, "ab");
+        digestIs("a run of another text", other, "ab", 4, 2, 10);
         TypebarLayout lost = Given.text("a".repeat(60));
         lost.run(1);
         digestIs("45 lost", lost, "a".repeat(60), 4, 2, 10);

@@ -20,9 +20,11 @@ public final class BoundaryLayoutTest {
         swapRange();
         swapOutOfRange();
         swapSamePosition();
+        swapExchanges();
         swapCost();
         undoNothing();
         undoLatestFirst();
+        undoCost();
         undoThirty();
         undoMoreThanThirty();
         undoMakesRoom();
@@ -38,6 +40,7 @@ public final class BoundaryLayoutTest {
         gainRange();
         gainOutOfRange();
         gainSamePosition();
+        gainIsDifference();
         gainIsNotMade();
         gainMayBeNegative();
         bestSwapCode();
@@ -166,6 +169,24 @@ public final class BoundaryLayoutTest {
         check.due("the layout", Given.layout(x), ALPHABET);
     }
 
+    private static void swapExchanges() {
+        check.sentence("Description", "A swap exchanges the typebars at two different positions.");
+        for (int p = 0; p < 12; p++) {
+            for (int q = 0; q < 12; q++) {
+                if (p != q) {
+                    TypebarLayout x = new TypebarLayout();
+                    x.swap(p, q);
+                    StringBuilder want = new StringBuilder(ALPHABET);
+                    want.setCharAt(p, ALPHABET.charAt(q));
+                    want.setCharAt(q, ALPHABET.charAt(p));
+                    check.due("the layout behind swap(" + p + ", " + q + ")", Given.layout(x), want.toString());
+                    check.due("positionOf(" + p + ")", x.positionOf(p), q);
+                    check.due("positionOf(" + q + ")", x.positionOf(q), p);
+                }
+            }
+        }
+    }
+
     private static void swapCost() {
         check.sentence("Promise 11", "Returns the cost after the swap");
         check.due("swap(0, 1) of no text", new TypebarLayout().swap(0, 1), 0);
@@ -216,6 +237,20 @@ public final class BoundaryLayoutTest {
         check.due("the layout", Given.layout(x), "bacdefghijkl");
         x.undo();
         check.due("the layout", Given.layout(x), ALPHABET);
+        check.due("undo()", x.undo(), Given.NONE);
+    }
+
+    private static void undoCost() {
+        check.sentence("Promise 12", "Returns the cost after it");
+        TypebarLayout x = Given.text("ab".repeat(30));
+        x.setClashDistance(5);
+        x.swap(0, 6);
+        x.swap(6, 11);
+        check.due("undo()", x.undo(), 59 * 1);
+        check.due("undo()", x.undo(), 59 * 5);
+        x.swap(1, 11);
+        x.clearText();
+        check.due("undo() of a text that was cleared", x.undo(), 0);
         check.due("undo()", x.undo(), Given.NONE);
     }
 
@@ -487,6 +522,21 @@ public final class BoundaryLayoutTest {
         TypebarLayout x = Given.text("abcabc");
         for (int p = 0; p < 12; p++) {
             check.due("gain(" + p + ", " + p + ")", x.gain(p, p), Given.SAME);
+        }
+    }
+
+    private static void gainIsDifference() {
+        check.sentence("Description", "The gain of a swap is the cost before it minus the cost after it.");
+        for (int p = 0; p < 12; p++) {
+            for (int q = 0; q < 12; q++) {
+                if (p != q) {
+                    TypebarLayout x = close(SIXTEEN_SWAPS, 5);
+                    int gain = x.gain(p, q);
+                    int before = x.cost();
+                    check.due("gain(" + p + ", " + q + ")", gain, before - x.swap(p, q));
+                    check.due("gain(" + p + ", " + q + ") of the way back", x.gain(p, q), -gain);
+                }
+            }
         }
     }
 

@@ -16,6 +16,7 @@ public final class BoundaryTextTest {
         appendNewLength();
         appendTextFull();
         fullTextIsKept();
+        clearTextEmpties();
         clearTextLength();
         pairCountRange();
         pairCountOutOfRange();
@@ -23,10 +24,13 @@ public final class BoundaryTextTest {
         pairCountAnyOrder();
         pairCountSuccessive();
         travelTimeRange();
+        travelTimeOutOfRange();
         travelTimePrevious();
         clashDistanceRange();
+        clashDistanceOutOfRange();
         clashDistancePrevious();
         clearingTimeRange();
+        clearingTimeOutOfRange();
         clearingTimePrevious();
         loadLayoutPlaces();
         loadLayoutEmptiesText();
@@ -141,6 +145,28 @@ public final class BoundaryTextTest {
     }
 
     // ---- clearText
+
+    private static void clearTextEmpties() {
+        check.sentence("Promise 3", "Empties the text.");
+        String[] texts = {"", "a", "ab", FULL_TEXT};
+        for (String text : texts) {
+            TypebarLayout x = Given.text(text);
+            x.clearText();
+            check.due("cost() where '" + text + "' was", x.cost(), 0);
+            check.due("worstLetter() where '" + text + "' was", x.worstLetter(), Given.NONE);
+            check.due("safeInterval() where '" + text + "' was", x.safeInterval(), 1);
+            check.due("digest() where '" + text + "' was", x.digest(), new TypebarLayout().digest());
+        }
+        // The layout, the swaps and the parameters are no part of the text.
+        TypebarLayout x = Given.text("abab", 6, 3, 7);
+        x.swap(0, 11);
+        x.clearText();
+        check.due("the layout", Given.layout(x), "lbcdefghijka");
+        check.due("undoCount()", x.undoCount(), 1);
+        check.due("setTravelTime(1)", x.setTravelTime(1), 6);
+        check.due("setClashDistance(1)", x.setClashDistance(1), 3);
+        check.due("setClearingTime(1)", x.setClearingTime(1), 7);
+    }
 
     private static void clearTextLength() {
         check.sentence("Promise 3", "Returns the length of the text before the call.");
@@ -259,9 +285,13 @@ public final class BoundaryTextTest {
         check.due("safeInterval() with T 20", x.safeInterval(), 20);
         check.due("setTravelTime(21)", x.setTravelTime(21), Given.RANGE);
         check.due("safeInterval() with T still 20", x.safeInterval(), 20);
-        TypebarLayout y = new TypebarLayout();
-        refusedOutside("setTravelTime", y::setTravelTime, 1, 20);
-        check.due("setTravelTime(7) behind them", y.setTravelTime(7), 4);
+    }
+
+    private static void travelTimeOutOfRange() {
+        check.sentence("Promise 5", "OUT_OF_RANGE if ticks is out of range.");
+        TypebarLayout x = new TypebarLayout();
+        refusedOutside("setTravelTime", x::setTravelTime, 1, 20);
+        check.due("setTravelTime(7) behind them", x.setTravelTime(7), 4);
     }
 
     private static void travelTimePrevious() {
@@ -280,9 +310,13 @@ public final class BoundaryTextTest {
         check.due("cost() with C 5", x.cost(), 5 + 1 + 0 + 1);
         check.due("setClashDistance(6)", x.setClashDistance(6), Given.RANGE);
         check.due("cost() with C still 5", x.cost(), 7);
-        TypebarLayout y = new TypebarLayout();
-        refusedOutside("setClashDistance", y::setClashDistance, 1, 5);
-        check.due("setClashDistance(3) behind them", y.setClashDistance(3), 2);
+    }
+
+    private static void clashDistanceOutOfRange() {
+        check.sentence("Promise 6", "OUT_OF_RANGE if distance is out of range.");
+        TypebarLayout x = new TypebarLayout();
+        refusedOutside("setClashDistance", x::setClashDistance, 1, 5);
+        check.due("setClashDistance(3) behind them", x.setClashDistance(3), 2);
     }
 
     private static void clashDistancePrevious() {
@@ -305,9 +339,13 @@ public final class BoundaryTextTest {
         check.due("setClearingTime(51)", x.setClearingTime(51), Given.RANGE);
         x.run(1);
         check.due("duration() with 50 still", x.duration(), 56);
-        TypebarLayout y = new TypebarLayout();
-        refusedOutside("setClearingTime", y::setClearingTime, 0, 50);
-        check.due("setClearingTime(9) behind them", y.setClearingTime(9), 10);
+    }
+
+    private static void clearingTimeOutOfRange() {
+        check.sentence("Promise 7", "OUT_OF_RANGE if ticks is out of range.");
+        TypebarLayout x = new TypebarLayout();
+        refusedOutside("setClearingTime", x::setClearingTime, 0, 50);
+        check.due("setClearingTime(9) behind them", x.setClearingTime(9), 10);
     }
 
     private static void clearingTimePrevious() {

@@ -9,11 +9,13 @@ public final class BoundaryTypingTest {
     private static final Check check = new Check();
 
     public static void main(String[] args) {
+        keystrokeNumbers();
         keystrokeZero();
         laterKeystroke();
         clearingTimeBehindJam();
         lostWhileInMotion();
         lostHasNoFurtherEffect();
+        lostBeforeJammed();
         jamAtMostC();
         jamStopsAllNear();
         jamLeavesFarOnes();
@@ -52,6 +54,18 @@ public final class BoundaryTypingTest {
     }
 
     // ---- Typing
+
+    private static void keystrokeNumbers() {
+        check.sentence("Description", "keystrokes are numbered from 0");
+        // The first that can be jammed is number 1, the last of a full text is number 59.
+        TypebarLayout x = Given.text("ab");
+        x.run(1);
+        check.due("jammedKeystroke(0) of ab", x.jammedKeystroke(0), 1);
+        TypebarLayout full = Given.text("adgj".repeat(14) + "adgf");
+        full.run(1);
+        check.due("jams() where the last keystroke is jammed", full.jams(), 1);
+        check.due("jammedKeystroke(0)", full.jammedKeystroke(0), 59);
+    }
 
     private static void keystrokeZero() {
         check.sentence("Description", "Keystroke 0 is made at tick 0.");
@@ -107,6 +121,20 @@ public final class BoundaryTypingTest {
         ran("aab", Given.text("aab"), 1, 1, 1, 1, 2 + 4);
         // It costs no clearing time, at once or later.
         ran("aal", Given.text("aal", 4, 2, 50), 1, 2, 0, 1, 2 + 4);
+    }
+
+    private static void lostBeforeJammed() {
+        check.sentence("Description", "A keystroke at tick t has one of three outcomes, which are checked in this order.");
+        // Its own typebar is at the distance 0, which is at most C: it is lost all the same.
+        for (int clash = 1; clash <= 5; clash++) {
+            ran("aa with C " + clash, Given.text("aa", 20, clash, 50), 1, 1, 0, 1, 1 + 20);
+            ran("aaa with C " + clash, Given.text("aaa", 20, clash, 50), 1, 1, 0, 2, 2 + 20);
+        }
+        // Each keystroke has one outcome: the three numbers make up the text.
+        for (int interval = 1; interval <= 30; interval++) {
+            TypebarLayout x = Given.busy();
+            check.due("all outcomes", x.run(interval) + x.jams() + x.lost(), 60);
+        }
     }
 
     private static void jamAtMostC() {
