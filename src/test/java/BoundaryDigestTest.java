@@ -49,8 +49,10 @@ public final class BoundaryDigestTest {
         values.addAll(List.of(x.undoCount(), x.cost(), x.bestSwap(), x.worstLetter(), x.safeInterval()));
         values.addAll(List.of(x.jams(), x.lost(), x.duration()));
         List<Integer> printed = new ArrayList<>();
-        for (int k = 0; k <= 60 && x.printedLetter(k) >= 0; k++) {
-            printed.add(x.printedLetter(k));
+        int letter = x.printedLetter(0);
+        while (letter >= 0 && printed.size() <= 60) {
+            printed.add(letter);
+            letter = x.printedLetter(printed.size());
         }
         values.add(printed.size());
         values.addAll(printed);

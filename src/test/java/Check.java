@@ -60,6 +60,10 @@ final class Check {
         }
     }
 
+    int looked() {
+        return looked;
+    }
+
     int wrong() {
         return wrong;
     }

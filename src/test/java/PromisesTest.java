@@ -286,19 +286,29 @@ public final class PromisesTest {
     private static void undoForgetsTheOldest() {
         check.at("promise 12, undo of 33 swaps");
         TypebarLayout x = new TypebarLayout();
+        // The layouts are worked out here, because asking for all of them would be too many calls.
         String[] layouts = new String[34];
-        layouts[0] = Given.layout(x);
+        layouts[0] = "abcdefghijkl";
         for (int k = 1; k <= 33; k++) {
-            x.swap(k * 5 % 12, k * 7 % 11 == k * 5 % 12 ? 11 - k * 5 % 12 : k * 7 % 11);
-            layouts[k] = Given.layout(x);
+            int first = k * 5 % 12;
+            int second = k * 7 % 11 == first ? 11 - first : k * 7 % 11;
+            x.swap(first, second);
+            layouts[k] = exchanged(layouts[k - 1], first, second);
             check.due("undoCount()", x.undoCount(), Math.min(k, 30));
         }
         for (int k = 32; k >= 3; k--) {
             check.due("undo()", x.undo(), 0);
-            layoutIs(x, layouts[k]);
+            check.due("the layout", Given.layout(x), layouts[k]);
         }
         check.due("undo()", x.undo(), NONE);
         layoutIs(x, layouts[3]);
+    }
+
+    private static String exchanged(String layout, int first, int second) {
+        char[] letters = layout.toCharArray();
+        letters[first] = layout.charAt(second);
+        letters[second] = layout.charAt(first);
+        return new String(letters);
     }
 
     private static void undoAfterImprove() {
